@@ -590,6 +590,7 @@ public final class PromisesTest {
     int[] empty = {0, 0, 4, 0, 0, 0};
     for (int what = 0; what < 6; what++) due("17 empty " + what, x.about(kinds[what], what), empty[what]);
     mapGrows();
+    mapGrowsTwice();
   }
 
   private static void grown(String what, CardIndex x, int growths, int moved, int rows, int... keys) {
@@ -629,6 +630,22 @@ public final class PromisesTest {
     grown("17 a key keeps its card", x, 2, 8, 7, 16, 4, 20, 8, 12);
     x.act(1, 0, 0, 1, 2);
     grown("17 by stripes", x, 2, 8, 7, 16, 4, 20, 8, 12, 1);
+  }
+
+  /** Four READS ahead of four WRITES: the third one makes it grow, the fourth comes to a new row. */
+  private static void mapGrowsTwice() {
+    CardIndex x = desk(BARE, 4, MAP);
+    for (int c = 0; c < 4; c++) x.act(c, 0, 0, 4 * c, 1);
+    batons(x, 0, 0, 1, 1, 2, 2, 3, 3);
+    grown("17 fourth in a new row", x, 1, 0, 5, 8, 4, 0, 12);
+    x.act(0, 0, 0, 16, 1);
+    x.baton(8, 1);
+    x.baton(9, 1);
+    for (int i = 10; i < 12; i++) x.baton(i, 2);
+    for (int i = 12; i < 14; i++) x.baton(i, 3);
+    // The READ moves the only old row, so that it grows no more, and the WRITE makes it grow anew.
+    // Clerk 0 writes last of the four now, so that 0 came to a new row.
+    grown("17 grows anew", x, 2, 3, 7, 16, 8, 0, 4, 12);
   }
 
   private static void promise18() {
