@@ -1,3 +1,4 @@
+import java.lang.reflect.Array;
 import java.lang.reflect.Constructor;
 import java.lang.reflect.Executable;
 import java.lang.reflect.Field;
@@ -6,6 +7,9 @@ import java.lang.reflect.Modifier;
 import java.nio.file.Files;
 import java.nio.file.Path;
 import java.util.ArrayList;
+import java.util.Arrays;
+import java.util.Collections;
+import java.util.IdentityHashMap;
 import java.util.List;
 import java.util.Set;
 import java.util.TreeSet;
@@ -34,6 +38,7 @@ public final class LanguageTest {
     String source = Files.readString(Path.of("src/main/java/CardIndex.java"));
     words(withoutComments(source));
     lengths(source);
+    room();
     System.out.println("LanguageTest: " + wrong + " wrong");
     if (wrong != 0) System.exit(1);
   }
@@ -114,6 +119,46 @@ public final class LanguageTest {
       need(List.of("int", "Act", "Cards", "Clerk", "Tray", "Stripe", "Desk", "Run", "Checker", "Explorer")
           .contains(type), "rule 12: new " + type + " behind " + indent);
     }
+  }
+
+  /** Counts the objects and arrays that hang on this one, and their fields and elements. */
+  private static void weigh(Object root, Set<Object> seen, long[] sums) throws Exception {
+    if (root == null || !seen.add(root)) return;
+    sums[0]++;
+    if (root.getClass().isArray()) {
+      int length = Array.getLength(root);
+      sums[1] += length;
+      if (root instanceof Object[] parts) for (Object part : parts) weigh(part, seen, sums);
+      return;
+    }
+    for (Field f : root.getClass().getDeclaredFields()) {
+      if (Modifier.isStatic(f.getModifiers())) continue;
+      sums[1]++;
+      f.setAccessible(true);
+      if (!f.getType().isPrimitive()) weigh(f.get(root), seen, sums);
+    }
+  }
+
+  private static long[] weight(CardIndex x) throws Exception {
+    long[] sums = new long[2];
+    weigh(x, Collections.newSetFromMap(new IdentityHashMap<>()), sums);
+    return sums;
+  }
+
+  /** An object is small, and stays as it is through all calls: they make none (see words()). */
+  private static void room() throws Exception {
+    CardIndex x = new CardIndex();
+    long[] before = weight(x);
+    for (int t = 0; t < 6; t++) x.tray(t, 8, t % 3);
+    for (int c = 0; c < 5; c++) x.clerk();
+    for (int i = 0; i < 40; i++) x.act(i % 5, i % 6, 0, i % 32, i);
+    for (int i = 0; i < 16; i++) x.explore(60);
+    x.first();
+    long[] after = weight(x);
+    need(before[0] <= 250 && before[1] <= 12000, "rule 12: " + before[0] + " objects, " + before[1] + " elements");
+    // The constant rows of steps hang on the acts too, others of them behind the calls.
+    need(after[0] <= before[0] + 10 && after[1] <= before[1] + 60,
+        "rule 12: " + after[0] + " objects, " + after[1] + " elements behind the calls");
   }
 
   private static void lengths(String source) {

@@ -1,19 +1,5 @@
 /** For each promise of the document what it names: ordinary inputs, edges, wrong inputs. */
-public final class PromisesTest {
-  private static final int MAP = 0, QUEUE = 1, DEQUE = 2, COUNTER = 3, COPIES = 4, ONCE = 5;
-  private static final int PLAIN = 0, BARE = 1, EARLY = 2;
-  private static final int NONE = -1, BAD = -2, NO = -3, FULL = -4, GAVE_UP = -5;
-  private static final int HIGH = Integer.MAX_VALUE, LOW = Integer.MIN_VALUE;
-  private static int wrong = 0;
-  private static int asked = 0;
-
-  private static void due(String what, long got, long want) {
-    asked++;
-    if (got == want) return;
-    wrong++;
-    System.out.println(what + " answered " + got + ", due is " + want);
-  }
-
+public final class PromisesTest extends Asking {
   public static void main(String[] args) {
     promise1();
     promise2();
@@ -44,35 +30,7 @@ public final class PromisesTest {
     promise25();
     refusalsChangeNothing();
     changesEndTheRun();
-    System.out.println("PromisesTest: " + asked + " answers, " + wrong + " wrong");
-    if (wrong != 0) System.exit(1);
-  }
-
-  /** A new object with trays of these kinds (DEQUES of 2) and fault, and so many clerks. */
-  private static CardIndex desk(int fault, int clerks, int... kinds) {
-    CardIndex x = new CardIndex();
-    for (int kind : kinds) x.tray(kind, 2, fault);
-    for (int i = 0; i < clerks; i++) x.clerk();
-    return x;
-  }
-
-  private static void batons(CardIndex x, int... clerks) {
-    for (int i = 0; i < clerks.length; i++) x.baton(i, clerks[i]);
-  }
-
-  private static void told(String what, CardIndex x, int clerk, int act, int outcome, int answer) {
-    due(what + " outcome", x.outcome(clerk, act), outcome);
-    due(what + " answer", x.answer(clerk, act), answer);
-  }
-
-  /** The cards as KEY, VALUE, KEY, VALUE .. */
-  private static void cards(String what, CardIndex x, int tray, int... keysAndValues) {
-    due(what + " size", x.size(tray), keysAndValues.length / 2);
-    for (int i = 0; i < keysAndValues.length; i++) {
-      due(what + " card " + i / 2, x.card(tray, i / 2, i % 2), 1);
-      due(what + " asked " + i / 2 + ", " + i % 2, x.asked(), keysAndValues[i]);
-    }
-    due(what + " no more cards", x.card(tray, keysAndValues.length / 2, 0), NONE);
+    end("PromisesTest");
   }
 
   private static void promise1() {
