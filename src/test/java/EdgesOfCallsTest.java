@@ -489,12 +489,25 @@ public final class EdgesOfCallsTest extends Asking {
     h = (h * 31 + 1) * 31;
     h = h * 31 + LOW;
     due("below nothing", x.digest(), h);
+    digestOfOneWhoWaited();
     x.explore(1);
     due("behind explore()", x.digest(), h);
     x.explore(61);
     due("behind a refused one", x.digest(), h);
     x.baton(0, 0);
     due("behind a change", x.digest(), 0);
+  }
+
+  private static void digestOfOneWhoWaited() {
+    CardIndex x = deque(1, PLAIN, 3);
+    x.act(0, 0, HEAD, 0, 0);
+    x.act(1, 0, LAST, 5, 0);
+    x.act(1, 0, HEAD, 0, 0);
+    x.act(2, 0, CLOSE, 0, 0);
+    play(x, "00 1111 1111 00 2222");
+    long h = 7;
+    for (int v : new int[] {CLOSED, 0, 2, WELL, 5, 0, WELL, 5, 0, WELL, 0, 0, 0}) h = h * 31 + v;
+    due("one who waited twice", x.digest(), h);
   }
 
   // ---- promise 25

@@ -9,11 +9,14 @@ public final class EdgesOfCheckingTest extends Asking {
     mustNotWait();
     fullInThePlainTray();
     cardsOfTheEnd();
+    endsThatAnswersDoNotTell();
+    closedAndEmpty();
     answersOfEachKind();
     plainMake();
     theFirstOrder();
     orderNumbers();
     triesAlsoWhereForbidden();
+    rowsBeginAnew();
     justThreeThousand();
     moreThanThreeThousand();
     latestTries();
@@ -28,6 +31,7 @@ public final class EdgesOfCheckingTest extends Asking {
     leastOnesFirst();
     exploringPatienceAndThrowing();
     exploringTellsApart();
+    exploringFortyActs();
     exploringStuckOnes();
     exploringJustThreeHundred();
     exploringThirteenActs();
@@ -220,6 +224,74 @@ public final class EdgesOfCheckingTest extends Asking {
     due("COPIES: both orders to their ends", x.tries(), 4);
   }
 
+  /** Here one row has all the answers, and other cards. */
+  private static void endsThatAnswersDoNotTell() {
+    // PUT, POLL, PUT, POLL leaves none; but the second POLL took nothing, as it was ahead of the second PUT.
+    CardIndex x = desk(BARE, 2, QUEUE);
+    x.act(0, 0, PUT, 5, 0);
+    x.act(0, 0, POLL, 0, 0);
+    x.act(0, 0, PUT, 5, 0);
+    x.act(1, 0, POLL, 0, 0);
+    play(x, "0000 00 11 00 00 1 0 1 0");
+    told("POLL", x, 0, 1, WELL, 5);
+    told("POLL of the same", x, 1, 0, WELL, 5);
+    cards("one is left", x, 0, 0, 5);
+    due("QUEUE: one too many", x.fits(0), 0);
+    x = deque(2, BARE, 2);
+    x.act(0, 0, LAST, 5, 0);
+    x.act(0, 0, HEAD, 0, 0);
+    x.act(0, 0, FIRST, 5, 0);
+    x.act(1, 0, TAIL, 0, 0);
+    play(x, "0000 00 11 00 00 1 0 1 0");
+    told("TAIL of the same", x, 1, 0, WELL, 5);
+    cards("one is left", x, 0, 0, 5);
+    due("DEQUE: one too many", x.fits(0), 0);
+    // Both note 5; PUT of 5, then PUT of 7 has these answers, but 7 was written first.
+    for (int kind : new int[] {MAP, COPIES}) {
+      x = desk(BARE, 2, kind);
+      x.act(0, 0, PUT, 1, 5);
+      x.act(0, 0, PUT, 1, 5);
+      x.act(1, 0, PUT, 1, 7);
+      play(x, "0000 00 1111 00");
+      told("PUT of 5", x, 0, 1, WELL, 5);
+      told("PUT of 7", x, 1, 0, WELL, 5);
+      cards("5 stays", x, 0, 1, 5);
+      due("another VALUE", x.fits(0), 0);
+      play(x, "0000 00 11 00 11");
+      cards("7 stays", x, 0, 1, 7);
+      due("the same VALUE", x.fits(0), 1);
+    }
+  }
+
+  /** A plain DEQUE that is CLOSED and empty answers CLOSED, and one that is not CLOSED nothing. */
+  private static void closedAndEmpty() {
+    CardIndex x = deque(1, PLAIN, 2);
+    x.act(0, 0, HEAD, 0, 0);
+    x.act(1, 0, CLOSE, 0, 0);
+    x.run();
+    told("HEAD", x, 0, 0, CLOSED, 0);
+    due("CLOSE, HEAD", x.fits(0), 1);
+    due("CLOSE is first", x.order(0, 0), 8);
+    due("HEAD is a try ahead of it", x.tries(), 3);
+    x = deque(2, BARE, 3);
+    x.act(0, 0, LAST, 5, 0);
+    x.act(0, 0, HEAD, 0, 0);
+    x.act(1, 0, TAIL, 0, 0);
+    x.act(2, 0, CLOSE, 0, 0);
+    play(x, "0000 00 11 22 00 11 22");
+    told("HEAD", x, 0, 1, WELL, 5);
+    told("TAIL", x, 1, 0, WELL, 5);
+    due("one card for two, and CLOSE", x.fits(0), 0);
+    // CLOSE began first, and is taken back when LAST is not answered as CLOSED.
+    x = deque(2, BARE, 2);
+    x.act(0, 0, CLOSE, 0, 0);
+    x.act(1, 0, LAST, 5, 0);
+    play(x, "0 11 000 11");
+    due("LAST, CLOSE", x.fits(0), 1);
+    due("LAST is first", x.order(0, 0), 8);
+    due("CLOSE, LAST (no), LAST, CLOSE", x.tries(), 4);
+  }
+
   /** Each answer and OUTCOME counts: here the cards of the end would fit. */
   private static void answersOfEachKind() {
     // QUEUE: two POLLS noted the only card.
@@ -349,6 +421,53 @@ public final class EdgesOfCheckingTest extends Asking {
     due("three HEADS wait for three LASTS", x.run(), 0);
     due("three HEADS, LAST; HEAD; two HEADS, LAST; HEAD; HEAD, LAST; HEAD", x.fits(0), 1);
     due("three HEADS: tries", x.tries(), 4 + 1 + 3 + 1 + 2 + 1);
+  }
+
+  /** What a row that failed had done is not there in the next one. */
+  private static void rowsBeginAnew() {
+    // Behind a PUT of 5 the ACT that began first changes it; the GET noted 5 ahead of that.
+    int[][] changes = {{MAP, PUT}, {MAP, OUT}, {MAP, MAP_ADD}, {COPIES, PUT}, {COPIES, OUT}};
+    for (int[] change : changes) {
+      CardIndex x = desk(BARE, 2, change[0]);
+      x.act(0, 0, PUT, 1, 5);
+      x.act(0, 0, change[1], 1, 7);
+      x.act(1, 0, GET, 1, 0);
+      play(x, "0000 0 111 000");
+      String what = "kind " + change[0] + ", op " + change[1];
+      due(what, x.fits(0), 1);
+      due(what + ": GET stands ahead of it", x.order(0, 1), 8);
+      due(what + ": PUT, it, GET (no), GET, it", x.tries(), 5);
+    }
+    // Two take the only card: PUT, one, other (no), other, one (no); and two that are forbidden.
+    int[][] takes = {{QUEUE, PUT, POLL, POLL}, {DEQUE, LAST, HEAD, HEAD}, {DEQUE, LAST, HEAD, TAIL}, {DEQUE, FIRST, TAIL, HEAD}};
+    for (int[] take : takes) {
+      CardIndex x = desk(BARE, 2, take[0]);
+      x.act(0, 0, take[1], 5, 0);
+      x.act(0, 0, take[2], 0, 0);
+      x.act(1, 0, take[3], 0, 0);
+      play(x, "0000 00 11 00 11");
+      due("two take the only card", x.fits(0), 0);
+      due("two take the only card: tries", x.tries(), 7);
+    }
+    // Of two ADDS to one SHARE each may be the first one, and none the second one.
+    CardIndex x = desk(BARE, 5, COUNTER);
+    x.act(0, 0, ADD, 3, 0);
+    x.act(4, 0, ADD, 3, 0);
+    play(x, "00 44 00 44");
+    due("two of one SHARE", x.fits(0), 0);
+    due("two of one SHARE: tries", x.tries(), 4);
+    // Who found it began ahead of who threw, and stands behind who made it: THREW, made, found.
+    x = desk(BARE, 3, ONCE);
+    for (int c = 0; c < 3; c++) x.act(c, 0, MAKE, 3, 0);
+    x.throwing(0, 3, 1);
+    play(x, "00 1 22 0 1 22 2 0 000 111 22");
+    told("who made", x, 0, 0, WELL, 1000);
+    told("who found", x, 1, 0, WELL, 1000);
+    told("who threw", x, 2, 0, THREW, 0);
+    due("THREW, made, found", x.fits(0), 1);
+    int[] order = {16, 0, 8};
+    for (int i = 0; i < 3; i++) due("THREW, made, found: " + i, x.order(0, i), order[i]);
+    due("made, found, THREW (no), THREW (no); found (no); THREW, made, found", x.tries(), 8);
   }
 
   // ---- 4: "It gives up when a further TRY would be above 3000"
@@ -644,6 +763,41 @@ public final class EdgesOfCheckingTest extends Asking {
     x.act(1, 0, POLL, 0, 0);
     x.explore(60);
     due("0, or none", x.explored(4), 2);
+    // The latest explore() alone counts.
+    due("one of them", x.explore(1), 1);
+    due("one kind of answers", x.explored(4), 1);
+    // The answer of an ACT that is not the last one, all else being alike.
+    x = desk(PLAIN, 2, COUNTER);
+    x.act(0, 0, SUM, 0, 0);
+    x.act(0, 0, ADD, 0, 0);
+    x.act(1, 0, ADD, 3, 0);
+    x.explore(60);
+    due("SUM of 0", x.explored(4), 1);
+    x = desk(PLAIN, 2, COPIES);
+    x.act(0, 0, COPIES_ALL, 0, 0);
+    x.act(1, 0, PUT, 0, 3);
+    due("ALL at five places", x.explore(60), 5);
+    due("ALL of 0, or of 3", x.explored(4), 2);
+  }
+
+  /**
+   * 32 GETS, then 8 PUTS of 1, 2 .. 8: the last GET comes to the 33 places among their 32 steps,
+   * and has one of nine answers there; in the RUNS behind them the GET ahead of it still has none.
+   */
+  private static void exploringFortyActs() {
+    int[] kinds = {1, 1, 1, 2, 2, 2, 2, 3};
+    CardIndex x = desk(PLAIN, 5, COPIES);
+    for (int c = 0; c < 4; c++) for (int i = 0; i < 8; i++) x.act(c, 0, GET, 0, 0);
+    for (int i = 0; i < 8; i++) x.act(4, 0, PUT, 0, i + 1);
+    for (int most = 1; most <= 8; most++) {
+      x.explore(most);
+      due("forty acts, " + most + " runs", x.explored(4), kinds[most - 1]);
+    }
+    due("forty acts", x.explore(33), 33);
+    due("forty acts, nine answers", x.explored(4), 9);
+    due("forty acts, sixty runs", x.explore(60), 60);
+    due("forty acts, nine answers still", x.explored(4), 9);
+    due("forty acts are NONE", x.explored(3), 60);
   }
 
   private static void exploringStuckOnes() {

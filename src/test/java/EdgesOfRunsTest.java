@@ -33,6 +33,7 @@ public final class EdgesOfRunsTest extends Asking {
     stripesGrowAbove();
     stripesCountTheirCards();
     stripesLoseWhileTheyGrow();
+    stripesTakeWhileTheyGrow();
     allThirtyTwoKeys();
     eachRunBeginsEmpty();
     batonNamesOneWhoIsNotAble();
@@ -472,6 +473,16 @@ public final class EdgesOfRunsTest extends Asking {
     play(x, "4 1 1");
     mark("SUM waits for no one, but is not able", x, 1, 4, 0, 1, 3);
     told("SUM of 7", x, 1, 0, WELL, 7);
+    x = desk(PLAIN, 5, COUNTER);
+    for (int c = 0; c < 4; c++) x.act(c, 0, ADD, 1 << 4 * c, 0);
+    x.act(4, 0, SUM, 0, 0);
+    x.run();
+    told("SUM of all four", x, 4, 0, WELL, 0x1111);
+    x = desk(PLAIN, 2, COUNTER);
+    x.act(1, 0, SUM, 99, 99);
+    x.act(0, 0, ADD, 7, 0);
+    play(x, "0 1 1");
+    told("SUM of 7 again", x, 1, 0, WELL, 7);
     due("SUM does not WAIT", x.waited(1, 0), 0);
     due("SUM and ADD", x.count(3), 13);
   }
@@ -537,6 +548,25 @@ public final class EdgesOfRunsTest extends Asking {
     told("OUT of none", x, 0, 0, NONE_THERE, 0);
     cards("OUT of none: PUT is lost", x, 0);
     due("OUT of none: no order", x.fits(0), 0);
+    // "the TRAY has these", with their VALUES as they were noted.
+    x = desk(BARE, 2, COPIES);
+    x.act(0, 0, PUT, 5, 1);
+    x.act(0, 0, PUT, 6, 2);
+    x.act(0, 0, OUT, 6, 0);
+    x.act(0, 0, GET, 5, 0);
+    x.act(1, 0, PUT, 5, 9);
+    x.act(1, 0, PUT, 7, 9);
+    play(x, "0000 0000 00 1111 1111 00");
+    told("OUT of what was noted", x, 0, 2, WELL, 2);
+    told("PUT in between", x, 1, 0, WELL, 1);
+    told("the VALUE that was noted", x, 0, 3, WELL, 1);
+    cards("as noted, but for 6", x, 0, 5, 1);
+    x = desk(BARE, 2, COPIES);
+    x.act(0, 0, PUT, 5, 1);
+    x.act(0, 0, PUT, 6, 2);
+    x.act(1, 0, PUT, 5, 9);
+    play(x, "0000 00 1111 00");
+    cards("as noted, and 6", x, 0, 5, 1, 6, 2);
   }
 
   private static void copiesByKeys() {
@@ -752,6 +782,42 @@ public final class EdgesOfRunsTest extends Asking {
       due("OUT ahead of growing: moved", x.about(0, 1), 3);
       keys("OUT ahead of growing", x, out == 16 ? 0 : 16, out == 16 ? 8 : out == 0 ? 8 : 0, 12, 4);
     }
+  }
+
+  /** "a new CARD comes there": to its ROW among the new ones, at its head. */
+  private static void stripesTakeWhileTheyGrow() {
+    // All five have read ahead of the first WRITE, so that none of them moves anything.
+    CardIndex x = desk(BARE, 5, MAP);
+    for (int c = 0; c < 5; c++) x.act(c, 0, PUT, 4 * c, c);
+    play(x, "00 11 22 33 44 00 11 22 44 33");
+    due("16, then 12", x.about(0, 0), 1);
+    due("16, then 12: moved", x.about(0, 1), 0);
+    due("16, then 12: rows", x.about(0, 2), 5);
+    keys("16, then 12", x, 8, 4, 0, 16, 12);
+    // It does not grow anew though 5 are more than 4; the next READ moves the only old ROW.
+    x.act(0, 0, GET, 1, 0);
+    x.run();
+    keys("READ of another STRIPE", x, 8, 4, 0, 16, 12);
+    x.act(0, 0, GET, 28, 0);
+    x.run();
+    due("READ: moved", x.about(0, 1), 3);
+    keys("READ: each came to the head of its ROW", x, 0, 8, 16, 4, 12);
+    due("READ: no new growing", x.about(0, 0), 1);
+    x.act(0, 0, PUT, 20, 5);
+    x.run();
+    due("the next new CARD: grows", x.about(0, 0), 2);
+    due("the next new CARD: rows", x.about(0, 2), 7);
+    keys("the next new CARD", x, 0, 8, 16, 20, 4, 12);
+    // From two ROWS to four: 24 and 28 have ROWS 2 and 3 of the new ones, 0 and 1 of the old ones.
+    x = desk(PLAIN, 2, MAP);
+    for (int key = 0; key <= 16; key += 4) x.act(0, 0, PUT, key, key);
+    x.act(0, 0, PUT, 24, 0);
+    x.run();
+    keys("24", x, 12, 4, 0, 16, 24, 8);
+    x.act(0, 0, PUT, 28, 0);
+    x.run();
+    due("28: moved", x.about(0, 1), 3 + 5);
+    keys("28", x, 0, 16, 4, 24, 8, 28, 12);
   }
 
   private static void keys(String what, CardIndex x, int... keys) {
