@@ -32,6 +32,7 @@ public final class EdgesOfCheckingTest extends Asking {
     exploringPatienceAndThrowing();
     exploringTellsApart();
     exploringFortyActs();
+    exploringSixtyKinds();
     exploringStuckOnes();
     exploringJustThreeHundred();
     exploringThirteenActs();
@@ -247,18 +248,19 @@ public final class EdgesOfCheckingTest extends Asking {
     cards("one is left", x, 0, 0, 5);
     due("DEQUE: one too many", x.fits(0), 0);
     // Both note 5; PUT of 5, then PUT of 7 has these answers, but 7 was written first.
-    for (int kind : new int[] {MAP, COPIES}) {
-      x = desk(BARE, 2, kind);
-      x.act(0, 0, PUT, 1, 5);
-      x.act(0, 0, PUT, 1, 5);
-      x.act(1, 0, PUT, 1, 7);
+    for (int[] act : new int[][] {{MAP, 0}, {MAP, 31}, {COPIES, 0}, {COPIES, 31}}) {
+      int key = act[1];
+      x = desk(BARE, 2, act[0]);
+      x.act(0, 0, PUT, key, 5);
+      x.act(0, 0, PUT, key, 5);
+      x.act(1, 0, PUT, key, 7);
       play(x, "0000 00 1111 00");
       told("PUT of 5", x, 0, 1, WELL, 5);
       told("PUT of 7", x, 1, 0, WELL, 5);
-      cards("5 stays", x, 0, 1, 5);
+      cards("5 stays", x, 0, key, 5);
       due("another VALUE", x.fits(0), 0);
       play(x, "0000 00 11 00 11");
-      cards("7 stays", x, 0, 1, 7);
+      cards("7 stays", x, 0, key, 7);
       due("the same VALUE", x.fits(0), 1);
     }
   }
@@ -449,6 +451,7 @@ public final class EdgesOfCheckingTest extends Asking {
       due("two take the only card", x.fits(0), 0);
       due("two take the only card: tries", x.tries(), 7);
     }
+    readingChangesNothing();
     // Of two ADDS to one SHARE each may be the first one, and none the second one.
     CardIndex x = desk(BARE, 5, COUNTER);
     x.act(0, 0, ADD, 3, 0);
@@ -468,6 +471,21 @@ public final class EdgesOfCheckingTest extends Asking {
     int[] order = {16, 0, 8};
     for (int i = 0; i < 3; i++) due("THREW, made, found: " + i, x.order(0, i), order[i]);
     due("made, found, THREW (no), THREW (no); found (no); THREW, made, found", x.tries(), 8);
+  }
+
+  /** ALL is no change, whatever its a is: PUT, X, ALL, Y; X, ALL, no Y .. till all was tried. */
+  private static void readingChangesNothing() {
+    CardIndex x = desk(BARE, 2, COPIES);
+    x.act(0, 0, PUT, 1, 5);
+    x.act(0, 0, PUT, 3, 0);
+    x.act(1, 0, COPIES_ALL, 1, 99);
+    x.act(1, 0, PUT, 4, 0);
+    play(x, "0000 00 1 1111 00");
+    told("ALL", x, 1, 0, WELL, 2 * 5);
+    cards("4 is lost", x, 0, 1, 5, 3, 0);
+    due("4 is lost", x.fits(0), 0);
+    // P, X, ALL, Y, Y(no); ALL, X, Y, Y, X; Y(no); and ahead of P: X, ALL, Y(no).
+    due("4 is lost: tries", x.tries(), 14);
   }
 
   // ---- 4: "It gives up when a further TRY would be above 3000"
@@ -798,6 +816,27 @@ public final class EdgesOfCheckingTest extends Asking {
     due("forty acts, sixty runs", x.explore(60), 60);
     due("forty acts, nine answers still", x.explored(4), 9);
     due("forty acts are NONE", x.explored(3), 60);
+  }
+
+  /**
+   * ADDS of 1 on one KEY, which are done one after the other: an ACT that comes later than in
+   * another RUN answers more, so that no two RUNS are alike.
+   */
+  private static void exploringSixtyKinds() {
+    for (int acts = 1; acts <= 8; acts += 7) {
+      CardIndex x = desk(PLAIN, 5, MAP);
+      for (int c = 0; c < 5; c++) for (int i = 0; i < acts; i++) x.act(c, 0, MAP_ADD, 9, 1);
+      for (int most = 60; most >= 10; most -= 10) {
+        due("ADDS", x.explore(most), most);
+        int[] want = {0, 0, 0, acts == 1 ? 0 : most, most};
+        for (int i = 0; i < 5; i++) due("ADDS: explored " + i, x.explored(i), want[i]);
+      }
+    }
+    CardIndex x = desk(PLAIN, 4, MAP);
+    for (int c = 0; c < 4; c++) x.act(c, 0, MAP_ADD, 9, 1);
+    due("four ADDS", x.explore(60), 24);
+    due("four ADDS: no more", x.explored(0), 1);
+    due("four ADDS: none alike", x.explored(4), 24);
   }
 
   private static void exploringStuckOnes() {

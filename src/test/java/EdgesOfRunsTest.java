@@ -327,6 +327,7 @@ public final class EdgesOfRunsTest extends Asking {
       play(x, "0000 00 1111 00");
       told("what was noted", x, 0, 1, WELL, 5);
       cards("the other one was taken", x, 0, 0, 5);
+      due("4 should be left: no order", x.fits(0), 0);
     }
     CardIndex x = deque(3, BARE, 2);
     x.act(0, 0, LAST, 5, 0);
