@@ -62,7 +62,7 @@ abstract class Asking {
     for (int i = 0; i < clerks.length; i++) x.baton(i, clerks[i]);
   }
 
-  /** A run whose baton names these clerks, blanks not counted. */
+  /** A run whose baton names these clerks, blanks not counted; its later choices stay as they were. */
   static int play(CardIndex x, String clerks) {
     int i = 0;
     for (char c : clerks.toCharArray()) if (c != ' ') x.baton(i++, c - '0');

@@ -63,7 +63,8 @@ public final class EdgesOfCheckingTest extends Asking {
       due(acts + " acts", x.fits(0), acts <= 12 ? 1 : NONE);
       // One after the other: the first one that is tried at a place is the one.
       due(acts + " acts: tries", x.tries(), acts <= 12 ? acts : 0);
-      due(acts + " acts: the last one", x.order(0, acts - 1), acts <= 12 ? 8 * ((acts - 1) / 8) + (acts - 1) % 8 : NONE);
+      // Clerk 0 has the first eight of them: 8 times the CLERK, and its number, is where it stands.
+      due(acts + " acts: the last one", x.order(0, acts - 1), acts <= 12 ? acts - 1 : NONE);
       due(acts + " acts: no more", x.order(0, acts), NONE);
     }
   }
@@ -441,7 +442,8 @@ public final class EdgesOfCheckingTest extends Asking {
       due(what + ": PUT, it, GET (no), GET, it", x.tries(), 5);
     }
     // Two take the only card: PUT, one, other (no), other, one (no); and two that are forbidden.
-    int[][] takes = {{QUEUE, PUT, POLL, POLL}, {DEQUE, LAST, HEAD, HEAD}, {DEQUE, LAST, HEAD, TAIL}, {DEQUE, FIRST, TAIL, HEAD}};
+    int[][] takes = {
+      {QUEUE, PUT, POLL, POLL}, {DEQUE, LAST, HEAD, HEAD}, {DEQUE, LAST, HEAD, TAIL}, {DEQUE, FIRST, TAIL, HEAD}};
     for (int[] take : takes) {
       CardIndex x = desk(BARE, 2, take[0]);
       x.act(0, 0, take[1], 5, 0);
@@ -862,14 +864,18 @@ public final class EdgesOfCheckingTest extends Asking {
   /** "(in explore() 300)": all by HEADS that wait, LASTS and FIRSTS of 5, found by drawing. */
   private static void exploringJustThreeHundred() {
     CardIndex x = deque(3, EARLY, 4);
-    int[][] acts = {{0, HEAD}, {1, HEAD}, {2, HEAD}, {1, LAST}, {3, LAST}, {0, LAST}, {0, FIRST}, {1, LAST}, {1, TAIL}, {3, LAST}, {0, LAST}};
+    int[][] acts = {
+      {0, HEAD}, {1, HEAD}, {2, HEAD}, {1, LAST}, {3, LAST}, {0, LAST}, {0, FIRST}, {1, LAST}, {1, TAIL}, {3, LAST},
+      {0, LAST}};
     for (int[] act : acts) x.act(act[0], 0, act[1], 5, 0);
     due("just 300", x.explore(60), 60);
     int[] want = {0, 6, 15, 0, 2};
     for (int i = 0; i < 5; i++) due("just 300: explored " + i, x.explored(i), want[i]);
     // Those of which the 301st TRY would be the last one are given up.
     x = deque(2, EARLY, 4);
-    acts = new int[][] {{0, TAIL}, {1, TAIL}, {2, HEAD}, {0, FIRST}, {3, FIRST}, {0, LAST}, {1, FIRST}, {0, LAST}, {3, TAIL}, {3, LAST}, {3, LAST}};
+    acts = new int[][] {
+      {0, TAIL}, {1, TAIL}, {2, HEAD}, {0, FIRST}, {3, FIRST}, {0, LAST}, {1, FIRST}, {0, LAST}, {3, TAIL}, {3, LAST},
+      {3, LAST}};
     for (int[] act : acts) x.act(act[0], 0, act[1], 5, 0);
     due("301", x.explore(60), 60);
     int[] due = {0, 40, 0, 20, 2};

@@ -467,25 +467,18 @@ public final class EdgesOfRunsTest extends Asking {
     told("SUM of none", x, 1, 0, WELL, 0);
     // At STEP 5 SUM gives MONITOR 0 itself, as 4 is not able.
     mark("4 begins behind GIVE 0", x, 1, 4, 0, 0, 6);
-    play(x, "11111 44");
-    mark("the baton names 4 at 5 and 6", x, 1, 4, 0, 0, 6);
     play(x, "11111 4 1111");
     mark("SUM ends first", x, 1, 1, 0, 1, 8);
     play(x, "4 1 1");
-    mark("SUM waits for no one, but is not able", x, 1, 4, 0, 1, 3);
+    mark("SUM does not begin beside it", x, 1, 4, 0, 1, 3);
     told("SUM of 7", x, 1, 0, WELL, 7);
+    due("SUM does not WAIT", x.waited(1, 0), 0);
+    due("SUM and ADD", x.count(3), 13);
     x = desk(PLAIN, 5, COUNTER);
     for (int c = 0; c < 4; c++) x.act(c, 0, ADD, 1 << 4 * c, 0);
     x.act(4, 0, SUM, 0, 0);
     x.run();
     told("SUM of all four", x, 4, 0, WELL, 0x1111);
-    x = desk(PLAIN, 2, COUNTER);
-    x.act(1, 0, SUM, 99, 99);
-    x.act(0, 0, ADD, 7, 0);
-    play(x, "0 1 1");
-    told("SUM of 7 again", x, 1, 0, WELL, 7);
-    due("SUM does not WAIT", x.waited(1, 0), 0);
-    due("SUM and ADD", x.count(3), 13);
   }
 
   // ---- 2: "Sums wrap"
