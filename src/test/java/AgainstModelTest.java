@@ -1,7 +1,10 @@
 import java.util.Arrays;
 import java.util.Random;
 
-/** Runs of calls drawn from fixed seeds: CardIndex and the Model must answer alike. */
+/**
+ * Runs of calls drawn from fixed seeds: CardIndex and the Model must answer alike. How many seeds, from
+ * which on, and after how many STEPS a RUN is cut off can be told as arguments.
+ */
 public final class AgainstModelTest {
   private static final int[] ODD = {-1, -2, 5, 6, 8, 9, 31, 32, 100, 101, 600, Integer.MAX_VALUE, Integer.MIN_VALUE};
   private final CardIndex x = new CardIndex();
@@ -18,6 +21,7 @@ public final class AgainstModelTest {
   public static void main(String[] args) {
     int seeds = args.length > 0 ? Integer.parseInt(args[0]) : 4000;
     int from = args.length > 1 ? Integer.parseInt(args[1]) : 0;
+    if (args.length > 2) Model.mostSteps = Integer.parseInt(args[2]);
     int[] seen = new int[13];
     for (int seed = from; seed < from + seeds; seed++) {
       AgainstModelTest test = new AgainstModelTest(seed);

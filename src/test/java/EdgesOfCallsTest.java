@@ -41,6 +41,7 @@ public final class EdgesOfCallsTest extends Asking {
     refusedWithoutARun();
     tellingChangesNothing();
     fiveHundredAndTwelveCalls();
+    exampleOfTheReadme();
     end("EdgesOfCallsTest");
   }
 
@@ -856,5 +857,23 @@ public final class EdgesOfCallsTest extends Asking {
       calls += 8;
     }
     for (; calls < 512; calls++) due("the last calls", x.count(calls % 3), 0);
+  }
+
+  /** The calls that README.md shows, with the answers that it tells. */
+  private static void exampleOfTheReadme() {
+    CardIndex x = new CardIndex();
+    int map = x.tray(0, 0, 1);
+    int ann = x.clerk(), bob = x.clerk();
+    x.act(ann, map, 3, 7, 1);
+    x.act(bob, map, 3, 7, 1);
+    x.baton(0, ann);
+    x.baton(1, bob);
+    x.baton(2, ann);
+    x.baton(3, bob);
+    due("README: run", x.run(), 0);
+    due("README: answer", x.answer(bob, 0), 1);
+    due("README: fits", x.fits(map), 0);
+    due("README: explore", x.explore(60), 60);
+    due("README: explored", x.explored(2), 35);
   }
 }

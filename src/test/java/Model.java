@@ -12,6 +12,8 @@ import java.util.TreeMap;
  */
 final class Model {
   static final int NONE = -1, BAD = -2, NO = -3, FULL = -4;
+  /** The document's 600, but for CutOffTest. */
+  static int mostSteps = 600;
   private static final String[] KINDS = {"MAP", "QUEUE", "DEQUE", "COUNTER", "COPIES", "ONCE"};
   private static final String[][] OPS = {
     {"PUT", "GET", "OUT", "ADD"}, {"PUT", "POLL"}, {"LAST", "FIRST", "HEAD", "TAIL", "CLOSE"},
@@ -527,7 +529,7 @@ final class Model {
   }
 
   int baton(int i, int clerk) {
-    if (i < 0 || i > 599 || clerk < -1 || clerk > 4) return BAD;
+    if (i < 0 || i >= mostSteps || clerk < -1 || clerk > 4) return BAD;
     baton.put(i, clerk);
     world = null;
     return 1;
@@ -549,7 +551,7 @@ final class Model {
 
   int run() {
     world = new World();
-    while (world.done < 600 && !world.able().isEmpty()) {
+    while (world.done < mostSteps && !world.able().isEmpty()) {
       List<Integer> able = world.able();
       int named = baton.getOrDefault(world.done, NONE);
       world.step(able.contains(named) ? named : able.get(0));
@@ -686,7 +688,7 @@ final class Model {
     for (int c : chosen) w.step(c);
     List<List<Integer>> ables = new ArrayList<>();
     List<Integer> path = new ArrayList<>(chosen);
-    while (w.done < 600 && !w.able().isEmpty()) {
+    while (w.done < mostSteps && !w.able().isEmpty()) {
       ables.add(w.able());
       path.add(w.able().get(0));
       w.step(w.able().get(0));
